@@ -710,15 +710,8 @@ public final class WaterOthers {
             partingAct = NONE;
             partingWho = NONE;
             isFaulty = pad.firstFault() != NONE;
-            if (!isFaulty) {
-                tellActs(pad);
-            }
-            canBe = !isFaulty && barredAct == NONE;
-        }
-
-        private void tellActs(Pad pad) {
             int who = NONE;
-            for (int i = 0; i < pad.count && barredAct == NONE; i++) {
+            for (int i = 0; i < pad.count && !isFaulty && barredAct == NONE; i++) {
                 char sign = pad.signs[i];
                 if (Pad.isLetter(sign)) {
                     who = sign - 'A';
@@ -726,6 +719,7 @@ public final class WaterOthers {
                     tellAct(who, sign);
                 }
             }
+            canBe = !isFaulty && barredAct == NONE;
         }
 
         private void tellAct(int who, char deed) {
@@ -841,6 +835,7 @@ public final class WaterOthers {
 
     /** Who goes first through an arch: every order, the least first. */
     private static final class ArchQueue {
+        private static final int MORE_THAN_ALL = 1000000;
         private final int[] comes = new int[WALKERS];
         private final int[] lasts = new int[WALKERS];
         private int comers;
@@ -858,8 +853,7 @@ public final class WaterOthers {
                 beats /= 10;
                 spans /= 10;
             }
-            leastWait = Integer.MAX_VALUE;
-            leastOrder = 0;
+            leastWait = MORE_THAN_ALL;
             letThrough(comers, 0, 0, 0);
         }
 

@@ -12,6 +12,7 @@ public final class SightsTest {
         fitting();
         asking();
         sightsByTrying();
+        everyPace();
         DUE.end();
     }
 
@@ -91,6 +92,23 @@ public final class SightsTest {
                 sights.add(new int[] {beat, cell});
             }
             compare(x, sights);
+        }
+    }
+
+    /** From every cell at every pace: two sights that tell the pace leave ten, one for each late. */
+    private static void everyPace() {
+        for (int c = 0; c < 20; c++) {
+            for (int v = -3; v <= 3; v++) {
+                WaterOthers x = new WaterOthers();
+                List<int[]> sights = new ArrayList<>();
+                for (int beat = 0; beat < 2; beat++) {
+                    int cell = cellAt(c, v, 0, beat);
+                    x.seen(beat, cell);
+                    sights.add(new int[] {beat, cell});
+                }
+                DUE.is("fits(-1) from " + c + " by " + v, x.fits(-1), 10);
+                compare(x, sights);
+            }
         }
     }
 
