@@ -627,7 +627,7 @@ public final class WaterOthers {
 
         private void turnWind() {
             wind = !wind;
-            for (int i = 0; i < WALKERS && !wind; i++) {
+            for (int i = 0; i < WALKERS; i++) {
                 if (!walkers[i].parted) {
                     walkers[i].beginAt(walkers[i].was[0]);
                 }

@@ -161,18 +161,37 @@ public final class DaysTest {
         x.walker(0, 5, 2);
         x.walker(1, 5, 3);
         DUE.does(x, "A>A>B>B>B*~", 6);
-        // When wind begins only the others go: where he was stands.
-        DUE.toldOf(x, 0, 7, 2, NONE, 0, 6, 5, 5, 5, 5, NONE);
+        // When wind begins each is as if just told where he is, but where his other has parted.
+        DUE.toldOf(x, 0, 7, 2, NONE, 0, 7, 7, 7, 7, 7, NONE);
         DUE.toldOf(x, 1, 7, 3, 5, 1, 6, 5, 5, 5, 5, 1);
         DUE.is("told(4)", x.told(4), 1);
         DUE.does(x, "A>.B=", 3);
-        DUE.toldOf(x, 0, 8, 2, NONE, 0, 7, 6, 5, 5, 5, NONE);
+        DUE.toldOf(x, 0, 8, 2, NONE, 0, 7, 7, 7, 7, 7, NONE);
         DUE.toldOf(x, 1, 7, 3, 6, 1, 7, 6, 5, 5, 5, 1);
         // When it ends each other begins where he is, but a parted one.
         DUE.does(x, "~", 1);
         DUE.toldOf(x, 0, 8, 2, 8, 0, 8, 8, 8, 8, 8, NONE);
         DUE.toldOf(x, 1, 7, 3, 6, 1, 7, 6, 5, 5, 5, 1);
         DUE.is("told(4) calm", x.told(4), 0);
+        windBegins();
+    }
+
+    /** Whatever LATE is, even 0, and whoever is told while there is wind. */
+    private static void windBegins() {
+        for (int late = 0; late <= 5; late++) {
+            WaterOthers x = new WaterOthers();
+            x.gap(19);
+            x.walker(0, 0, late);
+            DUE.does(x, "A>A>A>A<A>~", 6);
+            DUE.toldOf(x, 0, 3, late, NONE, 0, 3, 3, 3, 3, 3, NONE);
+            x.walker(5, 9, late);
+            DUE.does(x, "A<F<F<A<A=", 5);
+            DUE.toldOf(x, 0, 1, late, NONE, 0, 1, 2, 3, 3, 3, NONE);
+            DUE.toldOf(x, 5, 7, late, NONE, 0, 8, 9, 9, 9, 9, NONE);
+            DUE.does(x, "~~", 2);
+            DUE.toldOf(x, 0, 1, late, NONE, 0, 1, 1, 1, 1, 1, NONE);
+            DUE.toldOf(x, 5, 7, late, NONE, 0, 7, 7, 7, 7, 7, NONE);
+        }
     }
 
     private static void beats() {
@@ -310,7 +329,7 @@ public final class DaysTest {
         x.walker(0, 5, 2);
         DUE.does(x, "A>A>~.", 4);
         DUE.is("told(0)", x.told(0), 0);
-        DUE.toldOf(x, 0, 7, 2, NONE, 0, 6, 5, 5, 5, 5, NONE);
+        DUE.toldOf(x, 0, 7, 2, NONE, 0, 7, 7, 7, 7, 7, NONE);
         DUE.is("told(5)", x.told(5), 1);
         Due.write(x, "A>B>");
         DUE.refuses(x, "done() of A>B>", x::done, WaterOthers.NO);

@@ -94,7 +94,7 @@ public final class ImageTest {
         for (int i = 0; i < want.length; i++) {
             DUE.is("told(" + i + ")", x.told(i), want[i]);
         }
-        DUE.toldOf(x, 0, 8, 2, NONE, 0, 7, 7, 6, 5, 5, NONE);
+        DUE.toldOf(x, 0, 8, 2, NONE, 0, 7, 7, 7, 7, 7, NONE);
         for (int what : new int[] {-1, -10, 7, 8, 9, 20, 29, 30, 49, 60, 69, 70, 71, 100, 1000, Integer.MIN_VALUE,
             Integer.MAX_VALUE}) {
             DUE.refuses(x, "told(" + what + ")", () -> x.told(what), WaterOthers.OUTSIDE);

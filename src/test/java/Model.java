@@ -138,7 +138,7 @@ final class Model {
         if (deed == '~') {
             wind = !wind;
             for (One one : ones) {
-                if (!wind && one != null && one.stray == null) {
+                if (one != null && one.stray == null) {
                     one.begin(one.ago(0));
                 }
             }
