@@ -234,7 +234,10 @@ public final class DaysTest {
         DUE.is("told(5) at last", x.told(5), 999);
         DUE.barred(x, "~.", 1, 6);
         x.walker(0, 3, 0);
-        DUE.does(x, "A*", 1);
+        DUE.does(x, "A*A>", 2);
+        // A year that draws a beat, and then a stone of A: the beat can not be, so his other does not come to him.
+        DUE.is("year(15, 2, 1) at last", x.year(15, 2, 1), 1);
+        DUE.is("told(5) at last, still", x.told(5), 999);
     }
 
     private static void behindDays() {
