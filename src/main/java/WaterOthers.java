@@ -667,7 +667,7 @@ public final class WaterOthers {
 
         int firstFault() {
             boolean isAwaited = false;
-            for (int i = 0; i < count; i++) {
+            for (int i = 0; i < count && i < ROOM; i++) {
                 boolean canStand = isAwaited ? isDeed(signs[i]) : isLetter(signs[i]) || isAlone(signs[i]);
                 if (!canStand) {
                     return i;
@@ -711,7 +711,7 @@ public final class WaterOthers {
             partingWho = NONE;
             isFaulty = pad.firstFault() != NONE;
             int who = NONE;
-            for (int i = 0; i < pad.count && !isFaulty && barredAct == NONE; i++) {
+            for (int i = 0; i < pad.count && i < Pad.ROOM && !isFaulty && barredAct == NONE; i++) {
                 char sign = pad.signs[i];
                 if (Pad.isLetter(sign)) {
                     who = sign - 'A';
@@ -776,7 +776,7 @@ public final class WaterOthers {
             queued = 0;
             int rows = ROWS[one.late];
             offer(one.was[0] * rows + lastActs(one), 0, 0);
-            for (int i = 0; i < queued && acts == NONE; i++) {
+            for (int i = 0; i < PLACES && i < queued && acts == NONE; i++) {
                 for (int way = 0; way < WAYS && acts == NONE; way++) {
                     tryWay(queue[i], way, one.late, goal, gap);
                 }

@@ -16,7 +16,11 @@ final class Edge {
     private final Due due;
 
     Edge(String test) {
-        due = new Due(test);
+        this(new Due(test));
+    }
+
+    Edge(Due due) {
+        this.due = due;
     }
 
     void end() {

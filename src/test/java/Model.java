@@ -1,5 +1,9 @@
 import java.util.ArrayList;
+import java.util.HashMap;
+import java.util.HashSet;
 import java.util.List;
+import java.util.Map;
+import java.util.Set;
 
 /** The document's state in its plainest form: every cell a walker was in since he was told, days as a text. */
 final class Model {
@@ -22,6 +26,15 @@ final class Model {
 
         int ago(int acts) {
             return track.get(Math.max(0, track.size() - 1 - acts));
+        }
+
+        /** As much of where he was as his other still goes by, the last cell being his. */
+        List<Integer> lately() {
+            List<Integer> cells = new ArrayList<>();
+            for (int acts = late; acts >= 0; acts--) {
+                cells.add(ago(acts));
+            }
+            return cells;
         }
 
         void begin(int cell) {
@@ -198,5 +211,91 @@ final class Model {
             one.way = 1;
         }
         return NONE;
+    }
+
+    /** How many acts, and the first: all that he alone can come to by one act, by two and so on. */
+    int[] trip(int who, int goal) {
+        Model alone = copy();
+        alone.arch = new boolean[20];
+        for (int i = 0; i < 6; i++) {
+            alone.ones[i] = i == who ? alone.ones[i] : null;
+        }
+        if (ones[who].ago(0) == goal) {
+            return new int[] {0, NONE};
+        }
+        List<Integer> now = alone.ones[who].lately();
+        Set<List<Integer>> met = new HashSet<>(Set.of(now));
+        Map<List<Integer>, Integer> level = Map.of(now, NONE);
+        for (int acts = 1; !level.isEmpty(); acts++) {
+            level = alone.nextLevel(who, level, met);
+            int first = 3;
+            for (Map.Entry<List<Integer>, Integer> one : level.entrySet()) {
+                int last = one.getKey().size() - 1;
+                first = one.getKey().get(last) == goal ? Math.min(first, one.getValue()) : first;
+            }
+            if (first < 3) {
+                return new int[] {acts, first};
+            }
+        }
+        return new int[] {NONE, NONE};
+    }
+
+    /** What one act more comes to and was not met yet, each with the least first act of a way to it. */
+    private Map<List<Integer>, Integer> nextLevel(int who, Map<List<Integer>, Integer> level, Set<List<Integer>> met) {
+        Map<List<Integer>, Integer> next = new HashMap<>();
+        for (Map.Entry<List<Integer>, Integer> one : level.entrySet()) {
+            for (int way = 0; way < 3; way++) {
+                ones[who].track = new ArrayList<>(one.getKey());
+                boolean can = act(who, "=<>".charAt(way)) == NONE;
+                List<Integer> come = ones[who].lately();
+                if (can && !met.contains(come)) {
+                    next.merge(come, one.getValue() == NONE ? way : one.getValue(), Math::min);
+                }
+            }
+        }
+        met.addAll(next.keySet());
+        return next;
+    }
+
+    /** c, v and 3, l of all that fit, rising. */
+    List<int[]> fits() {
+        List<int[]> all = new ArrayList<>();
+        for (int c = 0; c < 20; c++) {
+            for (int v = -3; v <= 3; v++) {
+                for (int l = 0; l < 10; l++) {
+                    boolean is = true;
+                    for (int[] sight : sights) {
+                        is &= ringCell(c, v, l, sight[0]) == sight[1];
+                    }
+                    if (is) {
+                        all.add(new int[] {c, v + 3, l});
+                    }
+                }
+            }
+        }
+        return all;
+    }
+
+    /** The beat to ask about, and how many are left then at the most. */
+    int[] ask(List<int[]> fits) {
+        int[] best = {NONE, NONE};
+        for (int beat = 0; beat <= 60 && !fits.isEmpty(); beat++) {
+            int[] in = new int[20];
+            int most = 0;
+            for (int[] fit : fits) {
+                int cell = ringCell(fit[0], fit[1] - 3, fit[2], beat);
+                in[cell]++;
+                most = Math.max(most, in[cell]);
+            }
+            if (best[0] == NONE || most < best[1]) {
+                best = new int[] {beat, most};
+            }
+        }
+        return best;
+    }
+
+    private static int ringCell(int c, int v, int l, int beat) {
+        int cell = (c + v * (beat - l)) % 20;
+        return cell < 0 ? cell + 20 : cell;
     }
 }

@@ -1,3 +1,4 @@
+import java.util.List;
 import java.util.Random;
 
 /** Runs of 512 calls by draws on one object, each answer held against the model's. */
@@ -59,8 +60,12 @@ public final class ModelTest {
             standing();
         } else if (kind < 90) {
             again();
-        } else if (kind < 95) {
+        } else if (kind < 94) {
             year();
+        } else if (kind == 94) {
+            trip();
+        } else if (kind == 95) {
+            fitting();
         } else {
             images();
         }
@@ -273,5 +278,26 @@ public final class ModelTest {
                 m.sights.add(new int[] {beat, cell});
             }
         }
+    }
+
+    private void trip() {
+        int who = draw(0, 5);
+        int cell = draw(0, 19);
+        int what = draw(0, 1);
+        boolean isKnown = m.has(who) && in(cell, 0, 19);
+        int want = !isKnown ? UNKNOWN : in(what, 0, 1) ? m.trip(who, cell)[what] : OUTSIDE;
+        is("trip(" + who + ", " + cell + ", " + what + ")", x.trip(who, cell, what), want);
+    }
+
+    private void fitting() {
+        List<int[]> fits = m.fits();
+        int i = draw(0, Math.max(0, fits.size() - 1));
+        int want = i < 0 ? fits.size() : NONE;
+        if (in(i, 0, fits.size() - 1)) {
+            want = 1000 * fits.get(i)[0] + 10 * fits.get(i)[1] + fits.get(i)[2];
+        }
+        is("fits(" + i + ")", x.fits(i), want);
+        int what = draw(0, 1);
+        is("ask(" + what + ")", x.ask(what), in(what, 0, 1) ? m.ask(fits)[what] : OUTSIDE);
     }
 }
